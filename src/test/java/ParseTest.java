@@ -23,6 +23,7 @@ public final class ParseTest {
         tiredOfDepth();
         failedBodiesAreLeft();
         deepestStack();
+        withEightyNodes();
         Due.end("ParseTest");
     }
 
@@ -251,14 +252,14 @@ public final class ParseTest {
         k.p.rule(2, k.or(inner, number));
         k.p.rule(1, k.chain(k.ruleNode(2), k.sign('*')));
         k.staged(k.chain(k.ruleNode(1), k.or(k.sign('+'), k.sign('-'))));
-        k.succeeds("2*(3+4)-5*(6-(7-8))", 2 * (3 + 4) - 5 * (6 - (7 - 8)), 19, k19(), 19);
+        k.succeeds("2*(3+4)-5*(6-(7-8))", 2 * (3 + 4) - 5 * (6 - (7 - 8)), 19, looksOfCalculation(), 19);
         k.fails("2*(3+4", 6, 20, 6);
         k.fails("2+", 2, 8, 2);
     }
 
     // Counted by hand along the text: for each number '(', a digit's LOOK, its digits and the one that ends
     // them; behind each factor '*', behind each term '+' and '-'.
-    private static int k19() {
+    private static int looksOfCalculation() {
         int number = 4;
         int star = 1;
         int plusFails = 1;
@@ -359,5 +360,23 @@ public final class ParseTest {
         }
         values.staged(values.or(values.then(values.sign('a'), rest, 2), values.pure(0)));
         values.succeeds(FORTY.substring(1), 39 * ('a' + 5), 39, 40, 39);
+    }
+
+    /** A SIGN and 79 CHAINs over it, each of which is a part of the next higher one: as much code as can be. */
+    private static void withEightyNodes() {
+        Kit k = new Kit();
+        int leaf = k.sign('a');
+        for (int heap = 79; heap >= 1; heap--) {
+            int x = 2 * heap <= 79 ? 80 - 2 * heap : leaf;
+            int y = 2 * heap + 1 <= 79 ? 80 - (2 * heap + 1) : leaf;
+            k.chain(x, y);
+        }
+        k.staged(79);
+        Due.is("nodes", 80, k.p.count(0));
+        Due.is("the last of 80 is empty", false, k.p.empty(79));
+        Due.is("the last of 80 can begin", true, k.p.begins(79, 'a'));
+        Due.is("the rule of the last of 80 leads", 0, k.p.leads(0));
+        k.succeeds("a", 'a', 1, 8, 1);
+        k.fails("aa", 2, 3, 2);
     }
 }

@@ -136,7 +136,7 @@ public final class StudyTest {
             k.p.rule(r, k.then(k.kept(0), calls[r + 1], 0));
         }
         Due.is("a row of rules without end", false, k.p.begins(calls[0], 'a'));
-        k.p.rule(5, a);
+        k.p.rule(5, k.sign('a'));
         Due.is("a row of six rules", true, k.p.begins(calls[0], 'a'));
         k.p.rule(5, k.sign('c'));
         Due.is("the body as it is now", false, k.p.begins(calls[0], 'a'));

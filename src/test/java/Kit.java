@@ -63,6 +63,42 @@ final class Kit {
         return then(sign(first), sign(second), 1);
     }
 
+    /** A node that runs x so many times, one after the other. */
+    int times(int x, int count) {
+        int row = -1;
+        int power = x;
+        for (int left = count; left > 0; left >>= 1) {
+            if ((left & 1) == 1) {
+                row = row < 0 ? power : then(power, row, 1);
+            }
+            if (left > 1) {
+                power = then(power, power, 1);
+            }
+        }
+        return row;
+    }
+
+    /** A node x and so many TRYs over it. */
+    int raised(int x, int by) {
+        int top = x;
+        for (int i = 0; i < by; i++) {
+            top = attempt(top);
+        }
+        return top;
+    }
+
+    /**
+     * Gives rule r a body whose answer is another one for each text of up to 40 characters that differs in one
+     * place: c + 257 * the rest's answer. It takes two characters in each body, as 40 bodies would be too deep.
+     */
+    void reader(int r) {
+        int any = range(0, 255);
+        int factor = pure(257);
+        int end = pure(1);
+        int second = or(then(any, then(factor, ruleNode(r), 4), 2), end);
+        p.rule(r, or(then(any, then(factor, second, 4), 2), end));
+    }
+
     void text(String text) {
         p.clear();
         for (int i = 0; i < text.length(); i++) {
